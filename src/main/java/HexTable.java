@@ -731,14 +731,24 @@ public final class HexTable {
             for (int n = 0; n < MOST_ROWS && wrong == 0 && next != NONE; n++) {
                 entry = next;
                 wrong = wrongAt(entry);
-                next = behind[entry + 1];
-                for (int up = 0; up < bench.stones.length && wrong == 0 && next == NONE && entry != NONE; up++) {
-                    next = nextOne[entry];
-                    takeBack(entry);
-                    entry = tree.ahead[entry];
+                if (wrong == 0) {
+                    next = behind[entry + 1] != NONE ? behind[entry + 1] : climbToNext(entry);
                 }
             }
             return wrong == 0 ? 0 : wrong + PLACE_OF_ENTRY * (entry + 1);
+        }
+
+        /** Takes plays back up to one that has a next one beside it: that next one, or NONE. */
+        private int climbToNext(int entry) {
+            int at = entry;
+            int next = NONE;
+            for (int up = 0; up < bench.stones.length && next == NONE && at != NONE; up++) {
+                bench.put(tree.cells[at], 0);
+                mover = otherSide(mover);
+                next = nextOne[at];
+                at = tree.ahead[at];
+            }
+            return next;
         }
 
         /** From the last entry on, so that those behind one come in the order of their numbers. */
@@ -753,11 +763,6 @@ public final class HexTable {
                 nextOne[i] = behind[parent];
                 behind[parent] = i;
             }
-        }
-
-        private void takeBack(int entry) {
-            bench.put(tree.cells[entry], 0);
-            mover = otherSide(mover);
         }
 
         /** Plays an entry, if it can be played, and tells what is wrong with it. */
