@@ -44,6 +44,13 @@ final class Due {
         is(what, got ? 1 : 0, want ? 1 : 0);
     }
 
+    void is(String what, String got, String want) {
+        asked++;
+        if (!want.equals(got)) {
+            tell(what + " answered " + got + ", due is " + want);
+        }
+    }
+
     void end() {
         closeSentence();
         String by = sentences == 0 ? "" : " by " + sentences + " sentences";
